@@ -75,6 +75,7 @@ public final class StationRows {
             throws IllegalArgumentException, IndexOutOfBoundsException, IllegalStateException,
             UnsupportedOperationException {
         requireKnown(vehicle, vehicles.count());
+        requireTime(from, to);
         addTime(vehicles.outs(), vehicle, from, to);
     }
 
@@ -90,6 +91,7 @@ public final class StationRows {
             throws IllegalArgumentException, IndexOutOfBoundsException, IllegalStateException,
             UnsupportedOperationException {
         requireKnown(person, persons.count());
+        requireTime(from, to);
         addTime(persons.duties(), person, from, to);
     }
 
@@ -118,7 +120,7 @@ public final class StationRows {
     public int at(int station, int t, int i) throws IllegalArgumentException, IndexOutOfBoundsException {
         requireKnown(station, stations.count());
         requireMinute(t);
-        requireRange(i, 0, Integer.MAX_VALUE);
+        requirePlace(i);
         return i < gatherPersons(station, t) ? persons.inRow(i) : NONE;
     }
 
@@ -174,7 +176,7 @@ public final class StationRows {
 
     public int missing(int t, int i) throws IndexOutOfBoundsException {
         requireMinute(t);
-        requireRange(i, 0, Integer.MAX_VALUE);
+        requirePlace(i);
         checks.findLatest(t);
         int before = 0;
         for (int station = 0; station < stations.count(); station++) {
@@ -204,7 +206,7 @@ public final class StationRows {
 
     public int holder(int key, int i) throws IndexOutOfBoundsException {
         requireRange(key, 0, KEYS - 1);
-        requireRange(i, 0, Integer.MAX_VALUE);
+        requirePlace(i);
         return keys.stationInRow(key, i);
     }
 
@@ -228,6 +230,12 @@ public final class StationRows {
         requireRange(t, 0, MINUTES - 1);
     }
 
+    private static void requirePlace(int i) {
+        if (i < 0) {
+            throw new IndexOutOfBoundsException("a place below 0");
+        }
+    }
+
     private static void requireTime(int from, int to) {
         requireMinute(from);
         requireMinute(to);
@@ -249,7 +257,6 @@ public final class StationRows {
     }
 
     private static void addTime(Times times, int owner, int from, int to) {
-        requireTime(from, to);
         requireState(!times.meets(owner, from, to));
         requireRoom(times.hasRoom(owner));
         times.add(owner, from, to);
@@ -286,7 +293,7 @@ public final class StationRows {
         private final int[] froms;
         private final int[] tos;
 
-        /** The rows come from the caller (a count for each owner, most places for each), so their lengths are constants. */
+        /** The caller makes the rows (for each owner a count, and most places), so that all lengths are constants. */
         Times(int most, int[] counts, int[] froms, int[] tos) {
             this.most = most;
             this.counts = counts;

@@ -1,7 +1,7 @@
 import java.util.Arrays;
 import java.util.Random;
 
-/** All promises at once: long runs of calls, the same on the class and on the model, whose answers have to be the same. */
+/** All promises at once: long runs of the same calls on the class and on the model, which have to answer the same. */
 final class ModelTest {
     private static final int RUNS = 1500;
     private static final int CALLS = 512;

@@ -43,6 +43,24 @@ final class PersonTest {
         DUE.same("nearest", x.at(0, 0, 0), 59);
         DUE.same("farthest", x.at(0, 0, 59), 0);
         DUE.same("behind the last", x.at(0, 0, 60), -1);
+        DUE.same("the first one is beyond", x.limit(59), 1);
+        DUE.same("all are beyond", x.limit(0), 60);
+        DUE.same("none is beyond", x.limit(120), 0);
+        lastPersonHasFullRows(x);
+    }
+
+    private static void lastPersonHasFullRows(StationRows x) {
+        x.station(1);
+        for (int i = 1; i < 6; i++) {
+            x.duty(59, 10 * i, 10 * i + 5);
+        }
+        for (int i = 0; i < 3; i++) {
+            x.move(59, 1, 100 + i, 101 + i);
+        }
+        DUE.same("in the last duty", x.on(0, 54), 1);
+        DUE.same("in no duty", x.on(0, 55), 0);
+        DUE.noRoom("a seventh duty of the last person", () -> x.duty(59, 55, 60));
+        DUE.noRoom("a fourth move of the last person", () -> x.move(59, 1, 103, 104));
     }
 
     private static void dutyHasItsTimes() {
