@@ -5,6 +5,8 @@ import java.util.Random;
 final class ModelTest {
     private static final int RUNS = 1500;
     private static final int CALLS = 512;
+    /** 12 stations, 30 vehicles and 60 persons, unless some of their calls are refused. */
+    private static final int FULL = 102;
     private static final int MOST_TOLD = 20;
     private static final int[] WILD = {-1, 100000, Integer.MIN_VALUE, Integer.MAX_VALUE, 12, 30, 60, 121, 5, 7};
     private static final String[] BUILDING = {
@@ -21,6 +23,7 @@ final class ModelTest {
     /** Short runs of time make times meet often; long ones use the whole range. */
     private final int span;
     private final String[] flood;
+    private final boolean beginsFull;
     private int stations;
     private int vehicles;
     private int persons;
@@ -29,6 +32,7 @@ final class ModelTest {
         random = new Random(seed);
         span = new int[] {12, 40, 200, 3000, 99999}[seed % 5];
         flood = seed % 7 == 0 ? new String[] {"check"} : seed % 7 == 1 ? new String[] {"key"} : BUILDING;
+        beginsFull = seed % 2 == 0;
     }
 
     public static void main(String[] args) {
@@ -59,6 +63,9 @@ final class ModelTest {
     }
 
     private String nextName(int i) {
+        if (beginsFull && i < FULL) {
+            return i < 12 ? i % 3 == 2 ? "temporary" : "station" : i < 42 ? "vehicle" : "person";
+        }
         if (i < 3) {
             return "station";
         }
@@ -81,10 +88,11 @@ final class ModelTest {
         int from = random.nextInt(span);
         int to = from + 1 + random.nextInt(1 + span / 4);
         int distance = random.nextInt(3) == 0 ? 0 : random.nextInt(2) == 0 ? random.nextInt(5) : random.nextInt(121);
+        int crew = random.nextInt(4) == 0 ? random.nextInt(10) : random.nextInt(4);
         switch (name) {
             case "station": return ints(1 + random.nextInt(6));
             case "temporary": return ints(1 + random.nextInt(6), from, to);
-            case "vehicle": return ints(any(stations), random.nextInt(3), random.nextInt(5));
+            case "vehicle": return ints(any(stations), random.nextInt(3), crew);
             case "out": return ints(any(vehicles), from, to);
             case "person": return ints(any(stations), distance);
             case "duty": return ints(any(persons), from, to);
